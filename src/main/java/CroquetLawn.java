@@ -203,33 +203,23 @@ public final class CroquetLawn {
             switch (kind) {
                 case PLAY: bringIn(ball); break;
                 case MISS: endTurn(); break;
-                case HOOP: runHoop(); break;
+                case HOOP: set(run, inPlay, at(run, inPlay) + 1); bringIn(inPlay); break;
                 case ROQUET: roquet(ball); break;
                 case CROQUET: croquet(); break;
-                case PEG: pegOut(); break;
-                default: playFree(); break;
+                case PEG: set(run, inPlay, OUT); endTurn(); break;
+                default: spendFree(); bringIn(freeBall); break;
             }
         }
 
         private void bringIn(int ball) {
             inPlay = ball;
             toGo = 1;
-            live = othersIn(ball);
-        }
-
-        private int othersIn(int ball) {
-            int bits = 0;
+            live = 0;
             for (int b = 0; b < BALLS; b++) {
-                if (b != ball && !isOut(b)) {
-                    bits |= 1 << b;
+                if (b != ball && at(run, b) != OUT) {
+                    live |= 1 << b;
                 }
             }
-            return bits;
-        }
-
-        private void runHoop() {
-            set(run, inPlay, at(run, inPlay) + 1);
-            bringIn(inPlay);
         }
 
         private void roquet(int ball) {
@@ -243,15 +233,9 @@ public final class CroquetLawn {
             mustCroquet = NONE;
         }
 
-        private void pegOut() {
-            set(run, inPlay, OUT);
-            endTurn();
-        }
-
-        private void playFree() {
+        private void spendFree() {
             side = 1 - side;
             set(freeLeft, side, at(freeLeft, side) - 1);
-            bringIn(freeBall);
         }
 
         /** Ends the turn that goes on, if one does: a miss always ends it, since 1 is the most that is to go. */
@@ -572,6 +556,7 @@ public final class CroquetLawn {
                 return false;
             }
             place++;
+            skipBlanks();
             int number = readNumber();
             if (number == NONE) {
                 return false;
@@ -589,7 +574,6 @@ public final class CroquetLawn {
 
         /** A number; NONE with the place at the fault: where a digit is due, or the first one of too great a number. */
         private int readNumber() {
-            skipBlanks();
             int start = place;
             int number = 0;
             while (place < length && within(here(), '0', '9')) {

@@ -15,6 +15,7 @@ public final class FoundTest {
         rGivesBackFree();
         rOfRoquet();
         rForbidsFree();
+        rOfRoquetForbidsFree();
         rTwiceAtOnePlace();
         nThenRAtOnePlace();
         rThenNAtOnePlace();
@@ -22,6 +23,7 @@ public final class FoundTest {
         rulingsAreKept();
         wonIsUndone();
         fullIsUndone();
+        fullByN();
         lawsHoldOverGames();
         noClause();
         rulingsOfAnOlderGame();
@@ -168,6 +170,26 @@ public final class FoundTest {
         due.is("no free ahead of that", x.stroke(6, 0), NOT);
         Tell.strokes(due, x, "P0 M F");
         due.is("free behind that", x.state(5, 9), 4);
+        x = new CroquetLawn();
+        x.index(1, 0);
+        due.is("game", x.game(0, 1), 5);
+        Tell.strokes(due, x, "P0 M P1 M P0 M P2");
+        due.is("found", x.found(6), 1);
+        due.is("no free of the side whose turn it was", x.stroke(6, 0), NOT);
+        due.is("nor by another ball", x.stroke(6, 1), NOT);
+        Tell.strokes(due, x, "P0 M P1 R0 C M F");
+        due.is("free behind the next turn", x.told(12, 1), 1);
+    }
+
+    private static void rOfRoquetForbidsFree() {
+        CroquetLawn x = lawn("r9R");
+        x.index(0, 0);
+        due.is("game", x.game(0, 1), -5);
+        Tell.strokes(due, x, "P0 M F R1 C R1");
+        due.is("found", x.found(5), 1);
+        due.is("no free ahead of that", x.stroke(6, 0), NOT);
+        due.is("the free turn before it stays", x.state(5, 9), 4);
+        Tell.strokes(due, x, "P1");
     }
 
     private static void rTwiceAtOnePlace() {
@@ -260,6 +282,19 @@ public final class FoundTest {
         Tell.strokes(due, x, "P1 M");
         due.is("full again", x.stroke(0, 0), -3);
         due.is("as of 150", x.state(150, 0), 0);
+    }
+
+    private static void fullByN() {
+        CroquetLawn x = lawn();
+        for (int turn = 0; turn < 73; turn++) {
+            x.stroke(0, turn % 2);
+            x.stroke(1, 0);
+        }
+        Tell.strokes(due, x, "P1 R0 C R0");
+        due.is("found", x.found(149), 2);
+        Tell.state(due, x, 150, 0, NONE, 0, 0, NONE);
+        Tell.state(due, x, 149, 1, 1, 1, 12, NONE);
+        due.is("full", x.stroke(0, 0), -3);
     }
 
     private static void lawsHoldOverGames() {

@@ -345,5 +345,9 @@ public final class GameTest {
         due.is("told", x.told(0, 0), NONE);
         Tell.state(due, x, 0, 0, NONE, 0, 0, NONE, 0, 0, 0, 0, 1, 0, NONE);
         due.is("free ahead of any turn", x.stroke(6, 0), NOT);
+        due.is("another game", x.game(0, 1), 1);
+        Tell.strokes(due, x, "P0 M P1 M");
+        due.is("another game", x.game(0, 1), 1);
+        due.is("free behind a turn of an older game", x.stroke(6, 0), NOT);
     }
 }

@@ -129,6 +129,11 @@ public final class MeetingTest {
         x = new CroquetLawn();
         wins(x, 7, 0, 8, 2, 9, 1, 10, 3, 11, 0, 12, 3, 13, 3);
         players(x, 14, NONE, NONE);
+        x = new CroquetLawn();
+        wins(x, 0, 1, 1, 2, 2, 5, 3, 6, 4, 2, 5, 5, 6, 5, 7, 4, 8, 6, 9, 1, 10, 3, 11, 4, 12, 1, 13, 4);
+        players(x, 14, 5, 4);
+        wins(x, 14, 4);
+        due.is("champion", x.champion(), 4);
     }
 
     private static void unwins() {
@@ -154,17 +159,20 @@ public final class MeetingTest {
         due.is("a second match", x.unwin(11), 2);
         due.is("first ones stay", x.match(7, 2), 0);
         due.is("alone", x.unwin(8), 1);
-        int[][] chains = {{0, 4}, {1, 4}, {2, 4}, {3, 4}, {4, 3}, {5, 3}, {6, 2},
-            {7, 4}, {8, 4}, {9, 4}, {10, 4}, {11, 3}, {12, 3}, {13, 2}, {14, 1}};
+        int[][] chains = {{0, 4, 6, 14}, {1, 4, 6, 14}, {2, 5, 6, 14}, {3, 5, 6, 14}, {4, 6, 14}, {5, 6, 14}, {6, 14},
+            {7, 11, 13, 14}, {8, 11, 13, 14}, {9, 12, 13, 14}, {10, 12, 13, 14}, {11, 13, 14}, {12, 13, 14}, {13, 14}, {14}};
         for (int[] chain : chains) {
             x = nearlyOver();
             wins(x, 13, 3, 14, 3);
-            due.is("unwin(" + chain[0] + ")", x.unwin(chain[0]), chain[1]);
+            due.is("unwin(" + chain[0] + ")", x.unwin(chain[0]), chain.length);
             int left = 0;
             for (int m = 0; m < 15; m++) {
                 left += x.match(m, 2) == NONE ? 0 : 1;
             }
-            due.is("left behind unwin(" + chain[0] + ")", left, 15 - chain[1]);
+            due.is("left behind unwin(" + chain[0] + ")", left, 15 - chain.length);
+            for (int gone : chain) {
+                due.is("gone by unwin(" + chain[0] + ")", x.match(gone, 2), NONE);
+            }
         }
     }
 
@@ -227,6 +235,9 @@ public final class MeetingTest {
         x = new CroquetLawn();
         x.lawns(4);
         lays(x, 8, 0, 3, 1, 1, 1);
+        x = new CroquetLawn();
+        x.lawns(4);
+        lays(x, 9, 0, 0, 1, 10, 0, 3, 1, 1, 1);
     }
 
     private static void playersToldLater() {
@@ -248,6 +259,11 @@ public final class MeetingTest {
         lays(x, 0, 0, 2, 0, 7, 1, 1, 1, 3, 2, 4, 2, 5, 3, 6, 4, 8, 3, 9, 4, 11, 5);
         due.is("14 without draw 1", x.lay(14), NOT);
         lays(x, 10, 5, 12, 6, 13, 7, 14, 8);
+        x = new CroquetLawn();
+        x.lawns(4);
+        lays(x, 7, 0, 8, 0, 9, 0, 10, 0, 11, 1, 12, 1, 13, 2);
+        due.is("14 without draw 0", x.lay(14), NOT);
+        lays(x, 0, 1, 1, 1, 2, 2, 3, 2, 4, 2, 5, 3, 6, 4, 14, 5);
         x = new CroquetLawn();
         x.lawns(1);
         lays(x, 1, 0, 2, 1, 0, 2, 4, 3, 3, 4, 5, 5, 6, 6);
