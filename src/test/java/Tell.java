@@ -14,6 +14,35 @@ final class Tell {
         }
     }
 
+    /** A game of players 0 and 1 in which each side has so many free turns (one of them none, the other up to 10). */
+    static CroquetLawn game(Due due, int free0, int free1) {
+        CroquetLawn x = new CroquetLawn();
+        x.index(0, 200 * free1);
+        x.index(1, 200 * free0);
+        due.is("game with " + free0 + " and " + free1 + " free turns", x.game(0, 1), free1 - free0);
+        return x;
+    }
+
+    /** Plays a ball from its first hoop to the peg, whoever's turn it is: eight strokes. */
+    static void pegOut(Due due, CroquetLawn x, int ball) {
+        strokes(due, x, "P" + ball + " H H H H H H G");
+    }
+
+    /**
+     * So many strokes more, each the plainest that may come: croquet where it must be, else miss, else a right play.
+     * What comes next is asked once, since an object has 512 calls.
+     */
+    static void goOn(Due due, CroquetLawn x, int more) {
+        int first = x.count(0);
+        int side = x.state(first, 0);
+        int kind = x.state(first, 4) >= 0 ? 4 : x.state(first, 1) >= 0 ? 1 : 0;
+        for (int n = first; n < first + more; n++) {
+            due.is("stroke " + n + " goes on", x.stroke(kind, side), n);
+            side = kind == 1 ? 1 - side : side;
+            kind = kind == 1 ? 0 : 1;
+        }
+    }
+
     /** Types a text; answers what the last call answered. */
     static int type(CroquetLawn x, String text) {
         int answer = 0;
