@@ -44,16 +44,11 @@ public final class MeetingEdgesTest {
     }
 
     private static void wins(CroquetLawn x, int... pairs) {
-        for (int k = 0; k < pairs.length; k += 2) {
-            due.is("win(" + pairs[k] + ", " + pairs[k + 1] + ")", x.win(pairs[k], pairs[k + 1]), 1);
-        }
+        Tell.wins(due, x, pairs);
     }
 
     private static void lays(CroquetLawn x, int... pairs) {
-        for (int k = 0; k < pairs.length; k += 2) {
-            due.is("lay(" + pairs[k] + ")", x.lay(pairs[k]), pairs[k + 1]);
-            due.is("hour(" + pairs[k] + ")", x.hour(pairs[k]), pairs[k + 1]);
-        }
+        Tell.lays(due, x, pairs);
     }
 
     private static CroquetLawn withLawns(int lawns) {

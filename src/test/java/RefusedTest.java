@@ -11,7 +11,7 @@ public final class RefusedTest {
     private static final int BAD = -1, NOT = -2, FULL = -3, NONE = -4, CAST = -13;
     private static final int MIN = Integer.MIN_VALUE, MAX = Integer.MAX_VALUE;
     private static final int STATES = 15;
-    private static final String[] CALLS = {"game", "stroke", "told", "hit", "state", "found", "type", "count", "index",
+    private static final String[] CALLS = {"game", "stroke", "told", "hit", "state", "found", "count", "index",
         "handicap", "settle", "match", "win", "unwin", "lawns", "lay", "hour"};
     private static final Due due = new Due("RefusedTest");
 
@@ -21,6 +21,7 @@ public final class RefusedTest {
         firstNamed();
         for (int state = 0; state < STATES; state++) {
             changesNothing(state);
+            typedInVain(state);
         }
         due.is("hundreds of calls were refused", refused > 2000 ? 1 : 0, 1);
         due.end();
@@ -80,11 +81,11 @@ public final class RefusedTest {
             case 7: strokes(x, "P0 M P3 H H H H H H"); break;
             case 8: Tell.laws(x, "p0R;r0N"); strokes(x, "P1 R0 C R0 C H"); Tell.type(x, "p5R;"); break;
             case 9: meeting(x, 9); Tell.type(x, "r2N; p5R" + " ".repeat(22)); break;
-            case 10: meeting(x, 13); wins(x, 13, 3); wins(x, 14, 0); break;
+            case 10: Tell.type(x, "p4R;r3N" + " ".repeat(20)); meeting(x, 13); Tell.wins(due, x, 13, 3, 14, 0); break;
             case 11: strokes(x, "P1 H H H H H H G P3 H H H H H H G"); x.settle(); break;
             case 12: Tell.goOn(due, x, 150); break;
             case 13: Tell.laws(x, "p99R;p9N"); strokes(x, "P1 R0 C R0 C"); x.found(0); break;
-            default: strokes(x, "P0 R1 C R1 C"); x.found(3); meeting(x, 13); wins(x, 13, 0); break;
+            default: strokes(x, "P0 R1 C R1 C"); x.found(3); meeting(x, 13); Tell.wins(due, x, 13, 0); break;
         }
         return x;
     }
@@ -93,14 +94,10 @@ public final class RefusedTest {
         Tell.strokes(due, x, strokes);
     }
 
-    private static void wins(CroquetLawn x, int m, int player) {
-        due.is("win of " + m, x.win(m, player), 1);
-    }
-
     /** So many matches are won (of draw 0 all by player 0, of draw 1 the last but one by player 3) and laid. */
     private static void meeting(CroquetLawn x, int matches) {
         for (int m = 0; m < matches; m++) {
-            due.is("win of " + m, x.win(m, x.match(m, m == 12 ? 1 : 0)), 1);
+            Tell.wins(due, x, m, x.match(m, m == 12 ? 1 : 0));
             due.is("lay of " + m, x.lay(m) >= 0 ? 1 : 0, 1);
         }
     }
@@ -123,8 +120,26 @@ public final class RefusedTest {
         }
     }
 
+    /** Words of good bytes alone, which a full tape refuses, and such with one byte too low or too high at each place. */
+    private static void typedInVain(int state) {
+        int[] untouched = look(built(state));
+        long good = Tell.number("p7N;r9R;");
+        for (int n = -1; n <= 9; n++) {
+            for (int place = -1; place < 8; place++) {
+                for (long sign : new long[] {0, 31, 127, 255}) {
+                    long w = place < 0 ? good : good & ~(255L << 8 * place) | sign << 8 * place;
+                    CroquetLawn x = built(state);
+                    if (x.type(w, n) < 0) {
+                        refused++;
+                        compare("type of " + n + " with " + sign + " at " + place + " in state " + state, look(x), untouched);
+                    }
+                }
+            }
+        }
+    }
+
     private static boolean takesTwo(String call) {
-        return " game stroke told state type index match win ".contains(" " + call + " ");
+        return " game stroke told state index match win ".contains(" " + call + " ");
     }
 
     /** Of a game an answer down to -10 is no refusal: these are free turns of side 0. */
@@ -140,7 +155,6 @@ public final class RefusedTest {
             case "hit": return x.hit(a);
             case "state": return x.state(a, b);
             case "found": return x.found(a);
-            case "type": return x.type(a, b);
             case "count": return x.count(a);
             case "index": return x.index(a, b);
             case "handicap": return x.handicap(a);

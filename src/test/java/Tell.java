@@ -66,6 +66,21 @@ final class Tell {
         return x.laws();
     }
 
+    /** Matches and the players that win them, pair by pair; all must be taken. */
+    static void wins(Due due, CroquetLawn x, int... pairs) {
+        for (int k = 0; k < pairs.length; k += 2) {
+            due.is("win(" + pairs[k] + ", " + pairs[k + 1] + ")", x.win(pairs[k], pairs[k + 1]), 1);
+        }
+    }
+
+    /** Matches and the hours that are due when they are laid, pair by pair. */
+    static void lays(Due due, CroquetLawn x, int... pairs) {
+        for (int k = 0; k < pairs.length; k += 2) {
+            due.is("lay(" + pairs[k] + ")", x.lay(pairs[k]), pairs[k + 1]);
+            due.is("hour(" + pairs[k] + ")", x.hour(pairs[k]), pairs[k + 1]);
+        }
+    }
+
     /** The whole state as of n strokes against the twelve numbers that are due. */
     static void state(Due due, CroquetLawn x, int n, int... want) {
         for (int what = 0; what < want.length; what++) {
