@@ -25,6 +25,7 @@ public final class MeetingEdgesTest {
         lawnsWhenSomeIsLaid();
         layIsLaid();
         layFromNotLaid();
+        layOfDeciderThatIsNotNeeded();
         firstHours();
         lawnIsFree();
         playersAreFree();
@@ -347,6 +348,19 @@ public final class MeetingEdgesTest {
         due.is("14 without 6", x.lay(14), NOT);
         layUpTo(x, 6, 0);
         due.is("14", x.lay(14) > 0 ? 1 : 0, 1);
+    }
+
+    /** Promise 19 refuses no more than that: match 14 is laid even if one has won both draws, so that it can't be played. */
+    private static void layOfDeciderThatIsNotNeeded() {
+        CroquetLawn x = allButOne();
+        wins(x, 13, 0);
+        layUpTo(x, 6, 0);
+        layUpTo(x, 13, 0);
+        int last = Math.max(x.hour(6), x.hour(13));
+        due.is("14", x.lay(14), last + 1);
+        due.is("its hour", x.hour(14), last + 1);
+        due.is("it can't be played", x.win(14, 0), NOT);
+        due.is("all are laid", x.clear(), 15);
     }
 
     /** Lays a match with all from which it comes, or, where it is to be missing, only these. */
